@@ -1,0 +1,124 @@
+import java.util.NoSuchElementException;
+
+/** What the tests share: texts put in, rows told, answers compared, and the end with exit code 1 if one was wrong. */
+final class Checks {
+    static final long THROWN = Long.MIN_VALUE;
+
+    private static int wrong = 0;
+    private static int asked = 0;
+
+    private Checks() {
+    }
+
+    static void due(String what, long got, long want) {
+        asked++;
+        if (got == want) return;
+        wrong++;
+        System.out.println(what + " answered " + got + ", due is " + want);
+    }
+
+    static void due(String what, String got, String want) {
+        asked++;
+        if (got.equals(want)) return;
+        wrong++;
+        System.out.println(what + " answered " + got + ", due is " + want);
+    }
+
+    static void due(String what, boolean got, boolean want) {
+        due(what, got ? 1 : 0, want ? 1 : 0);
+    }
+
+    /** A call's answer and the ROW behind it. */
+    static void due(String what, TurningPosts x, long got, long want, String row) {
+        due(what, got, want);
+        due(what + ": the ROW", row(x), row);
+    }
+
+    /** THE TEXT is just these signs (of 80 at most). */
+    static void text(TurningPosts x, String signs) {
+        x.end(0);
+        for (int p = 0; p < signs.length(); p += 4) {
+            int four = 0;
+            for (int i = p; i < p + 4; i++) four = four << 8 | (i < signs.length() ? signs.charAt(i) & 255 : 0);
+            x.sign(four);
+        }
+        x.end(signs.length());
+    }
+
+    static int net(TurningPosts x, String signs) {
+        text(x, signs);
+        return x.net();
+    }
+
+    static int rule(TurningPosts x, String signs) {
+        text(x, signs);
+        return x.rule();
+    }
+
+    static int day(TurningPosts x, String signs) {
+        text(x, signs);
+        return x.day();
+    }
+
+    static int law(TurningPosts x, String signs) {
+        text(x, signs);
+        return x.law();
+    }
+
+    /** A new object with this net. */
+    static TurningPosts on(String net) {
+        TurningPosts x = new TurningPosts();
+        due("net " + net, net(x, net) > 0, true);
+        return x;
+    }
+
+    static String row(TurningPosts x) {
+        StringBuilder all = new StringBuilder();
+        for (int i = 0; i < x.count(9); i++) all.append(i == 0 ? "" : " ").append(x.row(i));
+        return all.toString();
+    }
+
+    static long post(TurningPosts x, int crossing, int what) {
+        try {
+            return x.post(crossing, what);
+        } catch (NoSuchElementException e) {
+            return THROWN;
+        }
+    }
+
+    static long way(TurningPosts x, int crossing, int k) {
+        try {
+            return x.way(crossing, k);
+        } catch (NoSuchElementException e) {
+            return THROWN;
+        }
+    }
+
+    static long rowAt(TurningPosts x, int i) {
+        try {
+            return x.row(i);
+        } catch (NoSuchElementException e) {
+            return THROWN;
+        }
+    }
+
+    /** Number what (1: POST, 3: CROWD, ..) of CROSSINGS 1, 2, .. */
+    static String all(TurningPosts x, int what) {
+        StringBuilder all = new StringBuilder();
+        for (int v = 1; v < x.count(0); v++) all.append(v == 1 ? "" : " ").append(x.post(v, what));
+        return all.toString();
+    }
+
+    static String posts(TurningPosts x) {
+        return all(x, 1);
+    }
+
+    static String crowds(TurningPosts x) {
+        return all(x, 3);
+    }
+
+    static void end(String name) {
+        System.out.println(name + ": " + asked + " asked, " + wrong + " wrong");
+        if (wrong != 0) System.exit(1);
+    }
+}
