@@ -168,7 +168,8 @@ public final class TurningPosts {
         int done = 0;
         int refused = 0;
         before.copyFrom(now);
-        for (int p = 0; p < signs && refused == 0; p += signsOf(text.at(p))) {
+        for (int p = 0; p < signs && refused == 0; p++) {
+            if (!isAct(text.at(p))) continue;
             int answer = act(text.at(p), text.at(p + 1) - '0', text.at(p + 2) - '0');
             if (answer < 0) refused = 1;
             else done++;
@@ -736,6 +737,7 @@ public final class TurningPosts {
     }
 
     private boolean fitsSights(int crossing, int k) {
+        if (!paths.hasWay(crossing, k)) return false;
         for (int i = 0; i < sights.size(); i++) {
             trial.copyFrom(now);
             trial.posts[crossing] = k;
@@ -751,7 +753,7 @@ public final class TurningPosts {
     /** Where one who starts at from is behind 0 .. 20 STEPS, for each of the numbers of a POST. */
     private void fillPlaces(int crossing, int numbers, int from) {
         for (int k = 0; k < MOST_WAYS; k++) {
-            if ((numbers >> k & 1) == 0) continue;
+            if (!paths.hasWay(crossing, k) || (numbers >> k & 1) == 0) continue;
             trial.copyFrom(now);
             trial.posts[crossing] = k;
             int at = from;
@@ -1623,6 +1625,7 @@ public final class TurningPosts {
             clearCells();
             for (int v = 1; v <= size; v++) {
                 int i = place(v, crossing, size);
+                if (i < 0 || i >= size) continue;
                 if (v == to) {
                     addWay(i, NONE);
                     cells[i][size] = 1;
@@ -1694,8 +1697,10 @@ public final class TurningPosts {
             for (int v = 1; v < paths.crossings(); v++) {
                 int degree = paths.degree(v);
                 if (degree < 1) continue;
+                long share = shares[v] * (ALL_DEGREES / degree);
                 for (int k = 0; k < degree; k++) {
-                    spreads[paths.goal(v, k)] += shares[v] * (ALL_DEGREES / degree);
+                    int to = paths.goal(v, k);
+                    if (paths.has(to)) spreads[to] += share;
                 }
             }
             for (int v = 0; v < MOST_CROSSINGS; v++) shares[v] = spreads[v];

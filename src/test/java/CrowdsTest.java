@@ -41,10 +41,34 @@ public final class CrowdsTest {
         Checks.due("of one WAY", x, x.unit(), 0, "0");
         x = Checks.on("00");
         Checks.due("of two WAYS to THE INN", x, x.unit(), 0, "0");
+        x = Checks.on("0577;17;2777;377;47;5777;66");
+        Checks.due("9999 BURSTS of M twice", x.unit(), 13);
+        x = Checks.on("06;157;277;3777;477;5777;66");
+        Checks.due("10000 BURSTS of M twice", x.unit(), -3);
+        x = Checks.on("0000;0001;2002");
+        Checks.due("M twice calmed is not yet it", x.unit(), unitByHand(x));
         x = Checks.on(LONG);
         x.ready();
         Checks.due("too long", x.unit(), -3);
         Checks.due("the ROW stays", Checks.row(x), "0 0");
+    }
+
+    /** As the document tells it, by acts: M twice less what that is when calmed, and that calmed. */
+    private static int unitByHand(TurningPosts like) {
+        TurningPosts y = Checks.on("0000;0001;2002");
+        int[] twice = new int[4];
+        for (int v = 1; v <= 3; v++) {
+            twice[v] = 2 * (like.post(v, 0) - 1);
+            y.comes(v, twice[v]);
+        }
+        y.calms();
+        int[] calm = new int[4];
+        for (int v = 1; v <= 3; v++) calm[v] = y.post(v, 3);
+        y.sheet(3, 0, 0, 0);
+        for (int v = 1; v <= 3; v++) y.comes(v, twice[v] - calm[v]);
+        y.calms();
+        Checks.due("the ROW of THE UNIT", Checks.row(like), Checks.crowds(y));
+        return y.count(4);
     }
 
     private static void returns() {

@@ -98,8 +98,12 @@ public final class SeenTest {
         Checks.due("two and two", x, x.looks(3), 301, "2");
         x = Checks.on("0;1;2;3;4;5;66");
         Checks.due("no difference", x, x.looks(7), 100, "2");
-        x = Checks.on("2220;1");
-        Checks.due("later is better", x.looks(1) > 101, true);
+        x = Checks.on("0655;165;246;366;466;5555");
+        Checks.rule(x, "n");
+        Checks.due("behind 20 STEPS", x, x.looks(4), 420, "1");
+        x = Checks.on("662;656;0;6;34;1411");
+        Checks.rule(x, "n/3");
+        Checks.due("of one who starts elsewhere", x, x.looks(6), 120, "1");
     }
 
     private static void heard() {
