@@ -509,7 +509,7 @@ public final class TurningPosts {
         int last = paths.crossings() - 1;
         int v = 1;
         picks[1] = NONE;
-        for (int tries = 0; tries < MOST_TRIES && v >= 1; tries++) {
+        for (int tries = 0; tries < MOST_TRIES && v >= 1 && v <= last; tries++) {
             picks[v]++;
             if (picks[v] >= paths.degree(v)) {
                 v--;
