@@ -1,27 +1,33 @@
 import java.util.NoSuchElementException;
+import java.util.function.Supplier;
+import java.util.function.ToLongFunction;
 
 /** What the tests share: texts put in, rows told, answers compared, and the end with exit code 1 if one was wrong. */
 final class Checks {
     static final long THROWN = Long.MIN_VALUE;
+    private static final int MOST_TOLD = 20;
 
     private static int wrong = 0;
     private static int asked = 0;
+    private static String sentence = "";
 
     private Checks() {
     }
 
+    /** What is asked from here on is of this sentence of a promise (of 0: of the document's Terms). */
+    static void of(int promise, String words) {
+        sentence = (promise == 0 ? "Terms" : "promise " + promise) + ", \"" + words + "\": ";
+    }
+
     static void due(String what, long got, long want) {
-        asked++;
-        if (got == want) return;
-        wrong++;
-        System.out.println(what + " answered " + got + ", due is " + want);
+        due(what, "" + got, "" + want);
     }
 
     static void due(String what, String got, String want) {
         asked++;
         if (got.equals(want)) return;
         wrong++;
-        System.out.println(what + " answered " + got + ", due is " + want);
+        if (wrong <= MOST_TOLD) System.out.println(sentence + what + " answered " + got + ", due is " + want);
     }
 
     static void due(String what, boolean got, boolean want) {
@@ -32,6 +38,45 @@ final class Checks {
     static void due(String what, TurningPosts x, long got, long want, String row) {
         due(what, got, want);
         due(what + ": the ROW", row(x), row);
+    }
+
+    /** A call answers so, and leaves all as it was. */
+    static void refused(String what, Supplier<TurningPosts> made, ToLongFunction<TurningPosts> call, long want) {
+        TurningPosts x = made.get();
+        TurningPosts y = made.get();
+        due(what, call.applyAsLong(x), want);
+        due(what + ": the state behind it", Whole.of(x), Whole.of(y));
+    }
+
+    /** A call that reads this text answers so, and leaves all but THE TEXT as it was. */
+    static void refused(String what, Supplier<TurningPosts> made, String signs, ToLongFunction<TurningPosts> call, long want) {
+        TurningPosts x = made.get();
+        TurningPosts y = made.get();
+        text(x, signs);
+        due(what, call.applyAsLong(x), want);
+        y.end(0);
+        due(what + ": the state behind it", Whole.of(x), Whole.of(y));
+    }
+
+    /** A new object with something of all that there is: THE RULE, walkers, turned POSTS, a ROW, what is kept, seen, heard, undone; THE TEXT is 0;1. */
+    static TurningPosts busy() {
+        TurningPosts x = on("02;13;20");
+        rule(x, "c+n+h*2+k");
+        x.comes(1, 2);
+        x.comes(2, 5);
+        x.goes(2);
+        x.keep(0);
+        x.points(3, 1);
+        x.bursts(2);
+        x.walks(1);
+        x.keep(2);
+        x.undo();
+        x.seen(2, 1, x.post(2, 2));
+        x.seen(1, 1, x.post(1, 2));
+        x.heard(1, 3);
+        x.home(2);
+        text(x, "0;1");
+        return x;
     }
 
     /** THE TEXT is just these signs (of 80 at most). */
