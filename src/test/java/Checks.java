@@ -62,7 +62,8 @@ final class Checks {
     static TurningPosts busy() {
         TurningPosts x = on("02;13;20");
         rule(x, "c+n+h*2+k");
-        x.comes(1, 2);
+        x.comes(1, 3);
+        x.goes(1);
         x.comes(2, 5);
         x.goes(2);
         x.keep(0);
@@ -76,6 +77,26 @@ final class Checks {
         x.heard(1, 3);
         x.home(2);
         text(x, "0;1");
+        return x;
+    }
+
+    /** As busy(), with all seven LINES there can be; POSTS and CROWDS of all are turned and changed, most of all those of the last. */
+    static TurningPosts busyOfSeven() {
+        TurningPosts x = on("0234;0345;0456;0567;0671;0712;0123");
+        rule(x, "k+c");
+        for (int v = 1; v <= 7; v++) {
+            x.points(v, v % 3 + 1);
+            x.comes(v, v);
+        }
+        x.keep(1);
+        x.points(7, 3);
+        x.goes(7);
+        x.goes(6);
+        x.bursts(7);
+        x.keep(2);
+        x.seen(7, 1, x.post(7, 2));
+        x.heard(1, 4);
+        x.home(7);
         return x;
     }
 
@@ -119,7 +140,8 @@ final class Checks {
 
     static String row(TurningPosts x) {
         StringBuilder all = new StringBuilder();
-        for (int i = 0; i < x.count(9); i++) all.append(i == 0 ? "" : " ").append(x.row(i));
+        int size = x.count(9);
+        for (int i = 0; i < size; i++) all.append(i == 0 ? "" : " ").append(x.row(i));
         return all.toString();
     }
 
@@ -150,7 +172,8 @@ final class Checks {
     /** Number what (1: POST, 3: CROWD, ..) of CROSSINGS 1, 2, .. */
     static String all(TurningPosts x, int what) {
         StringBuilder all = new StringBuilder();
-        for (int v = 1; v < x.count(0); v++) all.append(v == 1 ? "" : " ").append(x.post(v, what));
+        int crossings = x.count(0);
+        for (int v = 1; v < crossings; v++) all.append(v == 1 ? "" : " ").append(x.post(v, what));
         return all.toString();
     }
 

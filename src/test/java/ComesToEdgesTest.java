@@ -108,6 +108,7 @@ public final class ComesToEdgesTest {
         // By turns to 0, 2, 3, 4.
         for (int n = 1; n <= 60; n++) {
             int steps = 2 * n - (n + 3) / 4;
+            x = Checks.on("0234;0;0;00");
             Checks.due(n + " through 2", x, x.pass(1, 2, n), (n + 2) / 4, "" + steps);
             Checks.due(n + " through 4", x, x.pass(1, 4, n), n / 4, "" + steps);
             Checks.due(n + " through 1", x, x.pass(1, 1, n), n, "" + steps);

@@ -68,6 +68,12 @@ public final class CrowdsEdgesTest {
         Checks.due("of three", x, x.unit(), 2, "1 0 1");
         x = Checks.on("0023;0013;0012");
         Checks.due("of four each", x, x.unit(), unitByHand(x, "0023;0013;0012"), Checks.row(x));
+        String seven = "2300;3400;4500;5600;6700;7100;0012";
+        x = Checks.on(seven);
+        Checks.due("of all seven", x, x.unit(), unitByHand(x, seven), Checks.row(x));
+        seven = "2;3;4;5;6;7;6660";
+        x = Checks.on(seven);
+        Checks.due("of the last of seven alone", x, x.unit(), unitByHand(x, seven), Checks.row(x));
         x = Checks.on("0222;1111;2220");
         Checks.due("there and back", x, x.unit(), unitByHand(x, "0222;1111;2220"), Checks.row(x));
     }
@@ -160,6 +166,7 @@ public final class CrowdsEdgesTest {
             // 1 2: 2 0, 0 1.
             Checks.due("1 1 and 0 1", x, x.joins(i), 2, "0 1");
             x.sheet(3, 0, 0, 0);
+            x.crowds(30, 30);
             Checks.due("0 0 and 0 1", x, x.joins(i), 0, "0 1");
             Checks.due("nothing changes", Checks.crowds(x) + " " + x.count(2), "0 0 0");
             x.sheet(2, 2, 9, 0);
@@ -252,6 +259,13 @@ public final class CrowdsEdgesTest {
         Checks.refused("two at 1", () -> two(2, 0), y -> y.recurs(2), -2);
         Checks.refused("two at 2", () -> two(0, 2), y -> y.recurs(1), -2);
         Checks.due("one each", two(1, 1).recurs(2), 3);
+        Checks.refused("some can BURST, more than 9999 times with one more", CrowdsEdgesTest::full, y -> y.recurs(1), -2);
+    }
+
+    private static TurningPosts full() {
+        TurningPosts x = longOne();
+        for (int v = 1; v <= 7; v++) x.comes(v, 99);
+        return x;
     }
 
     private static void recursRefused() {
@@ -299,6 +313,7 @@ public final class CrowdsEdgesTest {
         TurningPosts x = new TurningPosts();
         x.comes(1, 1);
         Checks.due("one at one WAY", x.trigger(), -2);
+        Checks.refused("some can BURST, more than 9999 times with one more", CrowdsEdgesTest::full, TurningPosts::trigger, -2);
         Checks.of(38, "-3: from one they would more than 9999 times.");
         // Out of reach, as far as was searched: 9555 are answered.
         x = Checks.on("5755;6555;5554;5525;1111;5505;5355");

@@ -76,6 +76,14 @@ public final class KeptEdgesTest {
             Checks.due("once more", x.again(i), true);
             Checks.due("as it was, once more", state(x), "0 4 0; 1 1 0; 1 2");
         }
+        TurningPosts seven = Checks.busyOfSeven();
+        String then = state(seven);
+        seven.keep(0);
+        for (int v = 1; v <= 7; v++) {
+            seven.points(v, (seven.post(v, 1) + 1) % 4);
+            seven.comes(v, 9);
+        }
+        Checks.due("all seven", seven.again(0) ? state(seven) : "", then);
         TurningPosts x = Checks.busy();
         TurningPosts y = Checks.busy();
         x.points(1, 1);
@@ -107,7 +115,7 @@ public final class KeptEdgesTest {
         int[] first = {2, 1, 0, 0, 0, 0, 0, 0, 0, 0, 0};
         for (int what = 0; what <= 10; what++) Checks.due("of a new one " + what, new TurningPosts().count(what), first[what]);
         TurningPosts x = Checks.busy();
-        int[] then = {4, 6, 0, 1, 7, 14, 2, 1, 5, 3, 3};
+        int[] then = {4, 6, 1, 2, 7, 14, 2, 1, 6, 3, 3};
         for (int what = 0; what <= 10; what++) Checks.due("of busy " + what, x.count(what), then[what]);
     }
 
@@ -155,7 +163,7 @@ public final class KeptEdgesTest {
         TurningPosts x = new TurningPosts();
         for (int i : new int[] {0, 1, -1, MOST, LEAST}) Checks.due("of no ROW, " + i, Checks.rowAt(x, i), Checks.THROWN);
         for (int i : new int[] {3, 4, 7, 8, -1, MOST, LEAST}) Checks.refused("row(" + i + ") of three", Checks::busy, y -> Checks.rowAt(y, i), Checks.THROWN);
-        Checks.due("row(2) of three", Checks.rowAt(Checks.busy(), 2), 0);
+        Checks.due("row(2) of three", Checks.rowAt(Checks.busy(), 2), 1);
         x = Checks.on("2;3;4;5;6;7;0");
         x.route(1, 0);
         Checks.due("row(7) of seven", Checks.rowAt(x, 7), Checks.THROWN);

@@ -14,8 +14,10 @@ public final class NetEdgesTest {
         netSigns();
         netLines();
         netChecks();
+        netBehindOther();
         rule();
         ruleSigns();
+        ruleBehindOther();
         ruleOf40();
         post();
         postThrows();
@@ -133,12 +135,20 @@ public final class NetEdgesTest {
             x = Checks.busy();
             TurningPosts y = new TurningPosts();
             Checks.due("net " + net, Checks.net(x, net) + Checks.net(y, net), 2 * x.count(0));
-            Checks.due("the ROW stays", Checks.row(x), "1 1 0");
+            Checks.due("the ROW stays", Checks.row(x), "0 1 1");
             Checks.rule(y, "c+n+h*2+k");
             x.fits();
             y.fits();
             Checks.due("as one that is new", Whole.of(x), Whole.of(y));
         }
+        x = Checks.busyOfSeven();
+        String seven = "0;0134;0;0;0;0;0012";
+        TurningPosts y = new TurningPosts();
+        Checks.due("net " + seven, Checks.net(x, seven) + Checks.net(y, seven), 16);
+        Checks.rule(y, "k+c");
+        x.fits();
+        y.fits();
+        Checks.due("as one that is new, all seven", Whole.of(x), Whole.of(y));
         x = Checks.busy();
         Checks.net(x, "02;13;20");
         Checks.due("nothing to undo, kept, seen, heard", x.undo() + " " + x.again(0) + " " + x.again(2) + " " + x.forget() + " " + x.denies(), "-1 false false 0 0");
@@ -233,6 +243,22 @@ public final class NetEdgesTest {
         net("7;0;00000", -9);
     }
 
+    private static void netBehindOther() {
+        Checks.of(4, "THE TEXT is the net anew: how many CROSSINGS; all else is as at first");
+        String[] failing = {"0000;0000;0000;0000;0000;0000;0000;", "0000;0000;0000;0000;0000;0000;00000", "7777;7777", "2222;1111", "2345;x", ""};
+        for (String net : failing) {
+            TurningPosts x = new TurningPosts();
+            Checks.due("net " + net, Checks.net(x, net) < 0, true);
+            Checks.due("net 02;13;20 behind " + net, Checks.net(x, "02;13;20"), 4);
+            Checks.due("WAYS of all", x.count(1), 6);
+            Checks.due("mean", x, x.mean(2), 4, "4 1");
+            Checks.due("parish", x, x.parish(2), 14, "2");
+            Checks.due("net 0 behind both", Checks.net(x, "0"), 2);
+            Checks.due("one WAY", x.count(1) + " " + x.post(1, 0) + " " + x.way(1, 0) + " " + x.post(1, 5), "1 1 0 1");
+            Checks.due("a CROSSING that was", Checks.post(x, 2, 0), THROWN);
+        }
+    }
+
     private static void rule(String rule, int want) {
         Checks.due("rule " + rule, Checks.rule(new TurningPosts(), rule), want);
         if (want < 0) Checks.refused("rule " + rule + " ahead of another one", Checks::busy, rule, TurningPosts::rule, want);
@@ -244,7 +270,7 @@ public final class NetEdgesTest {
         Checks.due("7", Checks.rule(x, "7"), 0);
         Checks.due("it is", x.post(1, 4), 7);
         Checks.due("THE TEXT is empty", x.count(10), 0);
-        Checks.due("the ROW stays", Checks.row(x), "1 1 0");
+        Checks.due("the ROW stays", Checks.row(x), "0 1 1");
         Checks.due("none", Checks.rule(x, ""), 0);
         Checks.due("then 1", x.post(1, 4), 1);
         TurningPosts y = Checks.busy();
@@ -273,6 +299,25 @@ public final class NetEdgesTest {
         Checks.of(5, "its end, if it ends too early");
         String[] early = {"-", "(", "1+", "1-", "1*", "1/", "1<", "(1", "((1)", "-(", "1<(2", "d*-", "((((1)))"};
         for (String rule : early) rule(rule, -1 - rule.length());
+    }
+
+    /** What a text that fails has left open must not be found by the next one. */
+    private static void ruleBehindOther() {
+        Checks.of(5, "THE TEXT is THE RULE (an empty one: none): 0. -1 - p: the sign at p can't stand there");
+        String[] failing = {"-", "--", "(", "((((", "1<", "1<2<", "1<2+", "(1<2<", "((1<2", "1+", "1*-", "12)", "1234", "(1)(", "-(", "1=2=3", "((((1=2=", "99x"};
+        String[] good = {"5", "1<2", "3+4", "(1<2)", "((((1<2))))", "-1+9", "((((7))))", "d", "123", ""};
+        int[] values = {5, 1, 7, 1, 1, 8, 7, 1, 9, 1};
+        for (String rule : failing) {
+            for (int i = 0; i < good.length; i++) {
+                TurningPosts x = new TurningPosts();
+                Checks.due("rule " + rule, Checks.rule(x, rule) < 0, true);
+                Checks.due("rule " + good[i] + " behind " + rule, Checks.rule(x, good[i]), 0);
+                Checks.due("its value", x.post(1, 4), values[i]);
+                Checks.due("law " + rule, Checks.law(x, rule) <= -10000, true);
+                Checks.due("law " + good[i] + " behind " + rule, Checks.law(x, good[i]), 0);
+                Checks.due("THE RULE stays", x.post(1, 4), values[i]);
+            }
+        }
     }
 
     private static void ruleOf40() {
@@ -359,7 +404,7 @@ public final class NetEdgesTest {
         sheet(Checks.on("0;0"), new int[] {2, 7, 4, 1}, 9, "4 5");
         x = Checks.busy();
         x.sheet(2, 3, 1, 1);
-        Checks.due("HOUSED, STEPS, POSTS stay", x.count(2) + " " + x.count(3) + " " + Checks.posts(x), "0 1 0 0 1");
+        Checks.due("HOUSED, STEPS, POSTS stay", x.count(2) + " " + x.count(3) + " " + Checks.posts(x), "1 2 0 1 1");
     }
 
     private static void sheetOfBytes() {
@@ -395,7 +440,7 @@ public final class NetEdgesTest {
         }
         x = Checks.busy();
         x.sheet(3, 0, 0, 0);
-        Checks.due("all else stays", x.count(3) + " " + Checks.posts(x) + " " + Checks.row(x) + " " + x.count(8) + " " + x.count(10), "1 0 0 1 1 1 0 5 3");
+        Checks.due("all else stays", x.count(3) + " " + Checks.posts(x) + " " + Checks.row(x) + " " + x.count(8) + " " + x.count(10), "2 0 1 1 0 1 1 6 3");
         Checks.of(8, "Can't be undone.");
         x = Checks.on("0;0");
         x.sheet(2, 2, 3, 0);

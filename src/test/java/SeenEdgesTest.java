@@ -58,7 +58,7 @@ public final class SeenEdgesTest {
         Checks.refused("the eleventh", () -> sights(10), y -> y.seen(2, 1, 3), -1);
         TurningPosts x = sights(10);
         x.seen(2, 1, 3);
-        Checks.due("it was not seen", x, x.guess(2), 1, "1 1");
+        Checks.due("it was not seen", x, x.guess(2), 1, "1 0");
         x.forget();
         Checks.due("then there is room", x.seen(2, 1, 3), 1);
     }
@@ -139,6 +139,11 @@ public final class SeenEdgesTest {
         Checks.due("from 3", x, x.looks(3), 301, "1");
         x = Checks.on("0;0;0;0;0;0;0123");
         Checks.due("from 7", x, x.looks(7), 701, "1");
+        for (int k = 0; k < 4; k++) {
+            x = Checks.on("0;0;0;0;0;0;1234");
+            x.seen(7, 1, k + 1);
+            Checks.due("number " + k + " alone is left", x, x.looks(7), 100, "1");
+        }
         x = Checks.on("0;0011");
         Checks.due("two and two", x, x.looks(2), 201, "2");
         x = Checks.on("0;0001");

@@ -26,6 +26,7 @@ public final class TermsEdgesTest {
         orderOfRows();
         fractions();
         questions();
+        questionsOfSeven();
         refused();
         refusedText();
         noneFirst();
@@ -199,8 +200,9 @@ public final class TermsEdgesTest {
     private static void comparisons() {
         Checks.of(0, "EXPRESSION: < > = bind least (two; 1 or 0; not one behind the other)");
         String[] rules = {"1<2", "2<2", "3<2", "2>1", "2>2", "2>3", "2=2", "2=3", "3=2", "1+1<3", "1+2<3", "3<1+3", "5-3=2", "2=5-3", "2*3>5", "5>2*3", "-1<0", "0<-1",
+            "(2<2)+5", "(3<2)+5", "(2>2)+5", "(2>3)+5", "(2=3)+5", "(3=2)+5", "((((1<2))))", "((((2>1))))", "((((2=2))))+3", "((((2<1))))", "(((1<2)))", "((1<2))", "(1<2)",
             "(1<2)<3", "1<(2<3)", "(3>2)=(2>1)", "((1<2)=1)+4", "(1<2)+(3<4)", "6*(1=1)"};
-        int[] values = {1, 0, 0, 1, 0, 0, 1, 0, 0, 1, 0, 1, 1, 1, 1, 0, 1, 0, 1, 0, 1, 5, 2, 6};
+        int[] values = {1, 0, 0, 1, 0, 0, 1, 0, 0, 1, 0, 1, 1, 1, 1, 0, 1, 0, 5, 5, 5, 5, 5, 5, 1, 1, 4, 0, 1, 1, 1, 1, 0, 1, 5, 2, 6};
         for (int i = 0; i < rules.length; i++) value(rules[i], values[i]);
         for (char first : "<>=".toCharArray()) {
             for (char second : "<>=".toCharArray()) {
@@ -493,6 +495,22 @@ public final class TermsEdgesTest {
         x.fits();
         y.fits();
         Checks.due("law, but for THE TEXT", Whole.of(x), Whole.of(y));
+    }
+
+    /** That questions leave the last CROSSING of seven as it is, too. */
+    private static void questionsOfSeven() {
+        Checks.of(0, "Questions change nothing.");
+        List<ToLongFunction<TurningPosts>> all = new ArrayList<>();
+        all.addAll(List.of(x -> x.later(7, 9), x -> x.home(7), x -> x.pass(7, 1, 9), x -> x.round(7), x -> x.follows(7), x -> x.plants(9), x -> x.mends(), x -> x.joins(1)));
+        all.addAll(List.of(x -> x.unit(), x -> x.guess(7), x -> x.looks(7), x -> x.years(9, 60), x -> Checks.law(x, "2")));
+        for (int i = 0; i < all.size(); i++) {
+            TurningPosts x = Checks.busyOfSeven();
+            TurningPosts y = Checks.busyOfSeven();
+            all.get(i).applyAsLong(x);
+            x.fits();
+            y.fits();
+            Checks.due("question " + i + " of seven: the state behind it", Whole.of(x), Whole.of(y));
+        }
     }
 
     private static void refused() {

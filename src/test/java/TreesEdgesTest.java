@@ -15,6 +15,7 @@ public final class TreesEdgesTest {
         tree();
         trees();
         plants();
+        plantsInOrder();
         plantsRefused();
         grown();
         mends();
@@ -113,6 +114,49 @@ public final class TreesEdgesTest {
         String row = Checks.row(x);
         point(x, row.replace(" ", ""));
         return x.grown();
+    }
+
+    /** All that there are, in order, against rows of POSTS tried by hand. */
+    private static void plantsInOrder() {
+        for (String net : new String[] {"02;13;20", TREES_999, "4002;310;4211;00;63;1"}) {
+            int n = 0;
+            TurningPosts x = Checks.on(net);
+            String[] lines = (";" + net).split(";");
+            int[] row = new int[lines.length];
+            for (int v = row.length - 1; v > 0; v = next(lines, row)) {
+                if (!isTree(lines, row)) continue;
+                if (n % 50 == 0) x = Checks.on(net);
+                Checks.due("TREE " + n + " of " + net, x, x.plants(n), 0, told(row));
+                n++;
+            }
+            Checks.due("TREES of " + net, x.trees(), n);
+            Checks.due("no more of " + net, x.plants(n), -2);
+        }
+    }
+
+    /** The next row of POSTS: where a number was raised; 0 if there is none. */
+    private static int next(String[] lines, int[] row) {
+        for (int v = row.length - 1; v > 0; v--) {
+            row[v]++;
+            if (row[v] < lines[v].length()) return v;
+            row[v] = 0;
+        }
+        return 0;
+    }
+
+    private static boolean isTree(String[] lines, int[] row) {
+        for (int v = 1; v < row.length; v++) {
+            int at = v;
+            for (int gone = 0; gone < row.length && at != 0; gone++) at = lines[at].charAt(row[at]) - '0';
+            if (at != 0) return false;
+        }
+        return true;
+    }
+
+    private static String told(int[] row) {
+        StringBuilder all = new StringBuilder();
+        for (int v = 1; v < row.length; v++) all.append(v == 1 ? "" : " ").append(row[v]);
+        return all.toString();
     }
 
     private static void plantsRefused() {

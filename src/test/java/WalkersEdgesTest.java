@@ -402,6 +402,17 @@ public final class WalkersEdgesTest {
             Checks.due("left", x.count(8), i);
         }
         Checks.due("none", x.undo(), -1);
+        TurningPosts seven = Checks.busyOfSeven();
+        String then = state(seven);
+        for (int v = 1; v <= 7; v++) {
+            seven.points(v, (seven.post(v, 1) + 1) % 4);
+            seven.comes(v, 9);
+        }
+        for (int i = 0; i < 14; i++) seven.undo();
+        Checks.due("all seven", state(seven), then);
+        Checks.due("a day of all seven", Checks.day(seven, "c79g7c19p70p71w7a") > 4, true);
+        seven.undo();
+        Checks.due("all seven behind a day", state(seven), then);
         TurningPosts y = Checks.busy();
         TurningPosts z = Checks.busy();
         y.comes(2, 3);
@@ -480,11 +491,11 @@ public final class WalkersEdgesTest {
         for (String net : new String[] {"", "x", "00000", "02", "2;1", "0;0;0;0;0;0;0;"}) {
             TurningPosts x = Checks.busy();
             Checks.due("net " + net, Checks.net(x, net) < 0, true);
-            Checks.due("all can be undone", x.count(8), 5);
+            Checks.due("all can be undone", x.count(8), 6);
         }
         TurningPosts x = Checks.busy();
         for (int i : new int[] {1, 3, -1}) Checks.due("again(" + i + ")", x.again(i), false);
-        Checks.due("all can be undone", x.undo(), 4);
+        Checks.due("all can be undone", x.undo(), 5);
         Checks.due("again(0)", x.again(0), true);
         Checks.due("none can be undone", x.undo(), -1);
         x.comes(1, 1);

@@ -9,7 +9,8 @@ final class Whole {
         all.append("; ROW ").append(Checks.row(x));
         all.append("; net ").append(net(x)).append("; now ").append(standing(x));
         all.append("; seen");
-        for (int v = 1; v < x.count(0); v++) all.append(' ').append(x.guess(v));
+        int crossings = x.count(0);
+        for (int v = 1; v < crossings; v++) all.append(' ').append(x.guess(v));
         all.append("; heard ").append(x.fits()).append("; kept");
         for (int i = 0; i <= 2; i++) all.append(' ').append(x.joins(i)).append(',').append(Checks.row(x));
         all.append("; undone");
@@ -22,8 +23,10 @@ final class Whole {
     /** WAYS of all. */
     private static String net(TurningPosts x) {
         StringBuilder all = new StringBuilder();
-        for (int v = 1; v < x.count(0); v++) {
-            for (int k = 0; k < x.post(v, 0); k++) all.append(x.way(v, k));
+        int crossings = x.count(0);
+        for (int v = 1; v < crossings; v++) {
+            int ways = x.post(v, 0);
+            for (int k = 0; k < ways; k++) all.append(x.way(v, k));
             all.append(';');
         }
         return all.toString();
