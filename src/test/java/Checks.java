@@ -84,10 +84,7 @@ final class Checks {
     static TurningPosts busyOfSeven() {
         TurningPosts x = on("0234;0345;0456;0567;0671;0712;0123");
         rule(x, "k+c");
-        for (int v = 1; v <= 7; v++) {
-            x.points(v, v % 3 + 1);
-            x.comes(v, v);
-        }
+        day(x, "p12c11p23c22p31c33p42c44p53c55p61c66p72c77");
         x.keep(1);
         x.points(7, 3);
         x.goes(7);
