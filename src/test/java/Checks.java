@@ -90,6 +90,7 @@ final class Checks {
         x.goes(7);
         x.goes(6);
         x.bursts(7);
+        x.points(7, 2);
         x.keep(2);
         x.seen(7, 1, x.post(7, 2));
         x.heard(1, 4);
