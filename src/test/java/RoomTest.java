@@ -1,24 +1,44 @@
 import com.sun.management.ThreadMXBean;
 import java.lang.management.ManagementFactory;
+import java.util.NoSuchElementException;
 
-/** Calls make nothing anew but what they throw, so that 512 calls of any kind fit into the room. */
+/**
+ * What 512 calls make fits into the room: 600,000 objects of 16 bytes at least, 7.3 million fields and
+ * elements of a byte at least. What is below 7.3 million bytes has not so many of either.
+ */
 public final class RoomTest {
+    private static final int CALLS = 512;
+    private static final long ROOM = 7300000;
+
     private static long bytes() {
         return ((ThreadMXBean) ManagementFactory.getThreadMXBean()).getCurrentThreadAllocatedBytes();
     }
 
     public static void main(String[] args) {
         calls(moor());
-        TurningPosts x = moor();
         long first = bytes();
-        calls(x);
-        long made = bytes() - first;
-        Checks.due("bytes made by a round of calls: " + made, made < 1000, true);
+        TurningPosts x = moor();
+        // More than 200 calls a round.
+        for (int round = 0; round < 3; round++) calls(x);
+        due("a new object and rounds of calls", first);
         first = bytes();
-        new TurningPosts();
-        made = bytes() - first;
-        Checks.due("bytes made by a new object: " + made, made < 20000, true);
+        x = moor();
+        for (int call = 0; call < CALLS; call++) thrown(x);
+        due("calls that throw", first);
         Checks.end("RoomTest");
+    }
+
+    private static void due(String what, long first) {
+        long made = bytes() - first;
+        Checks.due(what + " make " + made + " bytes", made < ROOM, true);
+    }
+
+    private static void thrown(TurningPosts x) {
+        try {
+            x.post(8, 0);
+        } catch (NoSuchElementException e) {
+            // The exception is what is counted.
+        }
     }
 
     private static TurningPosts moor() {
