@@ -17,12 +17,11 @@ public final class RoomTest {
     public static void main(String[] args) {
         calls(moor());
         long first = bytes();
-        TurningPosts x = moor();
-        // More than 200 calls a round.
-        for (int round = 0; round < 3; round++) calls(x);
-        due("a new object and rounds of calls", first);
+        // More than 200 calls each.
+        for (int round = 0; round < 3; round++) calls(moor());
+        due("new objects and all calls of each", first);
         first = bytes();
-        x = moor();
+        TurningPosts x = new TurningPosts();
         for (int call = 0; call < CALLS; call++) thrown(x);
         due("calls that throw", first);
         Checks.end("RoomTest");
