@@ -30,14 +30,17 @@ public final class ComesToEdgesTest {
 
     private static void oneMore() {
         Checks.of(0, "where walkers come to (one more who starts at a CROSSING now; POSTS turn, HOUSED and STEPS grow as he goes, as by walks(); CROWDS are as now for TURN, he is of none).");
-        for (String rule : new String[] {"", "1", "n", "n+h", "k+1", "w+d", "i"}) {
-            TurningPosts x = Checks.on("023;130;220");
-            Checks.rule(x, rule);
-            x.points(2, 2);
-            for (int v = 1; v <= 3; v++) {
-                int far = x.home(v);
-                x.comes(v, 1);
-                Checks.due("walks(" + v + ") by rule " + rule, x.walks(v), far);
+        for (String rule : new String[] {"", "1", "n", "n+h", "k+1", "w+d", "i", "c", "c+1", "c*n", "5-c", "c=i"}) {
+            for (int crowd = 0; crowd <= 2; crowd++) {
+                TurningPosts x = Checks.on("023;130;220");
+                Checks.rule(x, rule);
+                x.points(2, 2);
+                x.sheet(2, 3, crowd, crowd);
+                for (int v = 1; v <= 3; v++) {
+                    int far = x.home(v);
+                    x.comes(v, 1);
+                    Checks.due("walks(" + v + ") by rule " + rule, x.walks(v), far);
+                }
             }
         }
         TurningPosts x = Checks.on("20;1");
@@ -99,6 +102,9 @@ public final class ComesToEdgesTest {
         for (int i = 0; i < 7; i++) left += (int) x.row(i);
         Checks.due("the ROW together", left, 999);
         Checks.refused("1000", WalkersTest::far, y -> y.home(7), -3);
+        x = justRound();
+        Checks.due("999 by other POSTS", x.home(6), 999);
+        Checks.refused("1000 by other POSTS", ComesToEdgesTest::justRound, y -> y.home(7), -3);
         Checks.refused("a ring", ComesToEdgesTest::ring, y -> y.home(2), -3);
     }
 
@@ -138,6 +144,9 @@ public final class ComesToEdgesTest {
         TurningPosts x = WalkersTest.far();
         Checks.due("999", x, x.pass(3, 3, 1), 1, "999");
         Checks.refused("1000", WalkersTest::far, y -> y.pass(7, 7, 1), -3);
+        x = justRound();
+        Checks.due("999 each", x, x.pass(6, 6, 60), 60, "59940");
+        Checks.refused("1000 each", ComesToEdgesTest::justRound, y -> y.pass(7, 6, 60), -3);
         x = thirdInRing();
         Checks.due("two", x, x.pass(1, 2, 2), 0, "2");
         Checks.refused("the third one of three", ComesToEdgesTest::thirdInRing, y -> y.pass(1, 2, 3), -3);
@@ -200,13 +209,23 @@ public final class ComesToEdgesTest {
     private static void roundTooFar() {
         Checks.of(20, "-3: one is not there in 999 STEPS");
         Checks.refused("the first one, 1000", WalkersTest::far, y -> y.round(7), -3);
-        TurningPosts x = WalkersTest.far();
-        Checks.due("the first one, 999", x.round(3) != -1, true);
+        TurningPosts x = justRound();
+        Checks.due("the first one, 999, who turns all POSTS round", x, x.round(6), 1, "999");
+        Checks.refused("the first one, 1000, who turns all POSTS round", ComesToEdgesTest::justRound, y -> y.round(7), -3);
         Checks.refused("a ring", ComesToEdgesTest::ring, y -> y.round(1), -3);
         // One was housed: the first is at THE INN at once, the second goes in a ring.
         Checks.refused("the second one", ComesToEdgesTest::secondInRing, y -> y.round(1), -3);
         x = thirdInRing();
         Checks.due("one is enough, the third would not be there", x, x.round(1), 1, "1");
+    }
+
+    /** From 6 it is 999 STEPS, from 7 one more; behind each such walker all POSTS are as they were. */
+    private static TurningPosts justRound() {
+        TurningPosts x = Checks.on("4506;3133;6652;5536;46;5;6");
+        String posts = "320310";
+        for (int v = 1; v <= 6; v++) x.points(v, posts.charAt(v - 1) - '0');
+        x.fits();
+        return x;
     }
 
     private static TurningPosts secondInRing() {

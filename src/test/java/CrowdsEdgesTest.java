@@ -174,6 +174,28 @@ public final class CrowdsEdgesTest {
             x.again(i);
             Checks.due("anew", x.joins(i) > 2, true);
         }
+        TurningPosts x = Checks.on("0000;0000;0000;0000;0000;0000;0000");
+        comeToAll(x, "1201203");
+        x.keep(1);
+        x.sheet(3, 0, 0, 0);
+        comeToAll(x, "1122013");
+        Checks.due("CROSSING by CROSSING", x, x.joins(1), 1, "2 3 2 3 2 1 2");
+        Checks.due("those of now stay", Checks.crowds(x), "1 1 2 2 0 1 3");
+        for (int v = 1; v <= 7; v++) {
+            x = Checks.on("0000;0000;0000;0000;0000;0000;0000");
+            x.comes(v, 99);
+            x.keep(2);
+            x.bursts(v);
+            Checks.due("99 and 95 at " + v, x.joins(2), 48);
+            Checks.due("two are left", x.row(v - 1), 2);
+        }
+    }
+
+    /** Of each digit so many come to CROSSINGS 1, 2, .. */
+    private static void comeToAll(TurningPosts x, String many) {
+        for (int v = 1; v <= many.length(); v++) {
+            if (many.charAt(v - 1) > '0') x.comes(v, many.charAt(v - 1) - '0');
+        }
     }
 
     /** Kept under 1 and come together they BURST 9999 times, and once more for each one more at 1. */

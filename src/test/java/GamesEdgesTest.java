@@ -121,6 +121,27 @@ public final class GamesEdgesTest {
         Checks.refused("41", Checks::busy, ones.substring(0, 41), TurningPosts::law, -10040);
         Checks.refused("80", Checks::busy, ones, TurningPosts::law, -10040);
         Checks.refused("41, the 40th can't stand", Checks::busy, ones.substring(0, 39) + "d1", TurningPosts::law, -10039);
+        Checks.refused("43, the 42nd can't stand", Checks::busy, ones.substring(0, 41) + "xx", TurningPosts::law, -10040);
+        lawAsRule();
+    }
+
+    /** Texts that may be a RULE, or not, by what rule() says of them. */
+    private static void lawAsRule() {
+        Checks.of(48, "the sign at p can't stand there (as rule()).");
+        String[] parts = {"1", "12", "123", "1234", "12:", "d", "dd", "x", "-", "--k", "+", "1+", "1+c", "c*n", "h/i", "w-k", "(", "((((d))))", "(((((d)))))", "(d", "d)", "()", "1<2", "1<2<3", "(1<2)=1", "i>", "=1", "n=h", "1 "};
+        for (String first : parts) {
+            for (String join : new String[] {"", "+", "<", "*("}) {
+                for (String second : parts) {
+                    String text = first + join + second + (join.endsWith("(") ? ")" : "");
+                    TurningPosts x = new TurningPosts();
+                    TurningPosts y = new TurningPosts();
+                    int rule = Checks.rule(x, text);
+                    int law = Checks.law(y, text);
+                    Checks.due("law " + text, law, rule < 0 ? rule - 9999 : 0);
+                    Checks.due("the ROW behind law " + text, Checks.row(y), rule < 0 ? "" : "1 1");
+                }
+            }
+        }
     }
 
     private static void waits() {
@@ -230,6 +251,21 @@ public final class GamesEdgesTest {
         for (int seed = 0; seed < 5; seed++) yearsAsByCalls("of HOUSED 9999", GamesEdgesTest::fullInn, seed, 60);
         Checks.due("some came", x.years(1, 60) > 5, true);
         Checks.due("HOUSED stays", x.count(2), 9999);
+        Checks.of(50, "STEPS in these (whole)");
+        TurningPosts y = farGone();
+        Checks.due("STEPS", y.count(3), 99999);
+        for (int seed = 0; seed < 5; seed++) yearsAsByCalls("of STEPS 99999", GamesEdgesTest::farGone, seed, 20);
+        y.years(1, 20);
+        Checks.due("some went", y.row(1) > 0, true);
+        Checks.due("STEPS stay", y.count(3), 99999);
+    }
+
+    private static TurningPosts farGone() {
+        TurningPosts x = TermsEdgesTest.longWay();
+        x.comes(1, 90);
+        x.goes(1);
+        x.comes(7, 90);
+        return x;
     }
 
     private static void yearsByHand() {

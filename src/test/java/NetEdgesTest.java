@@ -294,6 +294,12 @@ public final class NetEdgesTest {
             rule("(d)" + sign, -4);
         }
         rule("d1", -2);
+        for (String sign : new String[] {":", ";", ".", "\u00b9", "x"}) {
+            rule("1" + sign, -2);
+            rule("12" + sign, -3);
+            rule("123" + sign, -4);
+            rule("k+12" + sign, -5);
+        }
         rule("(1)2", -4);
         rule("1)", -2);
         Checks.of(5, "its end, if it ends too early");
@@ -335,6 +341,10 @@ public final class NetEdgesTest {
         rule(ones.substring(0, 39) + "x", -40);
         rule(ones.substring(0, 39) + "xx", -40);
         rule(ones.substring(0, 38) + "xxxx", -39);
+        rule(ones.substring(0, 41) + "xx", -41);
+        rule(ones.substring(0, 42) + "++", -41);
+        rule(ones.substring(0, 60) + "x", -41);
+        rule(ones.substring(0, 79) + ")", -41);
         rule("-".repeat(80), -41);
         rule("(".repeat(80), -5);
         rule("1234" + ones.substring(0, 50), -4);

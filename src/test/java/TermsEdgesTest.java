@@ -135,7 +135,7 @@ public final class TermsEdgesTest {
     }
 
     /** STEPS are 99998, and kept under 0. */
-    private static TurningPosts longWay() {
+    static TurningPosts longWay() {
         TurningPosts x = Checks.on("025;165;27;377;47;577;66");
         x.comes(7, 70);
         for (int walker = 0; walker < 70; walker++) x.walks(7);

@@ -13,6 +13,7 @@ public final class WalkersEdgesTest {
         comesTooMany();
         goes();
         walks();
+        walksStepByStep();
         walksTooFar();
         bursts();
         calms();
@@ -121,6 +122,33 @@ public final class WalkersEdgesTest {
         Checks.refused("of an empty CROWD", WalkersEdgesTest::busyWithout3, y -> y.walks(3), -2);
         Checks.of(11, "NONE: none such, THE INN.");
         for (int v : NO_POST) Checks.refused("walks(" + v + ")", Checks::busy, y -> y.walks(v), -1);
+    }
+
+    /** As by a STEP of one where he is, and so on: by RULES that tell of CROWDS, too. */
+    private static void walksStepByStep() {
+        Checks.of(11, "One of a CROWD walks till he is at THE INN: in how many STEPS");
+        for (String rule : new String[] {"", "c", "c+1", "c*2+k", "5-c", "c=i", "h+c", "n*c+1", "w+d"}) {
+            for (int from = 1; from <= 3; from++) {
+                for (int crowd = 1; crowd <= 4; crowd++) {
+                    TurningPosts x = Checks.on("0023;1300;120");
+                    TurningPosts y = Checks.on("0023;1300;120");
+                    for (TurningPosts each : new TurningPosts[] {x, y}) {
+                        Checks.rule(each, rule);
+                        each.sheet(2, 3, crowd, 1);
+                    }
+                    int steps = x.walks(from);
+                    int at = from;
+                    for (int gone = 0; gone < steps; gone++) at = at == 0 ? -1 : y.goes(at);
+                    Checks.due("by rule " + rule + " from " + from, steps > 0 ? at : 0, 0);
+                    Checks.due("all is as by STEPS, by rule " + rule + " from " + from, state(x), state(y));
+                }
+            }
+        }
+        TurningPosts x = Checks.on("0000");
+        Checks.rule(x, "c");
+        x.comes(1, 3);
+        x.walks(1);
+        Checks.due("two are left, and turn it", x.post(1, 1), 2);
     }
 
     /** From 3 it is 999 STEPS, and from 7 one more; one walker is at each of them. */
@@ -377,7 +405,8 @@ public final class WalkersEdgesTest {
         dayFails(all.substring(0, 58) + "p10", -61);
         dayFails(all.substring(0, 59) + "g1", -61);
         dayFails(all.substring(0, 59) + "gx", -61);
-        dayFails(all.substring(0, 60) + "x", -61);
+        for (int good = 60; good < 80; good++) dayFails(all.substring(0, good) + "x", -61);
+        for (int good = 60; good < 79; good++) dayFails(all.substring(0, good) + "g", -61);
         dayFails(all.substring(0, 59) + "xa", -60);
         dayFails(all.substring(0, 59) + "x", -60);
         dayFails(all.substring(0, 58) + "gxa", -60);
