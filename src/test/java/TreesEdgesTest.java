@@ -18,6 +18,7 @@ public final class TreesEdgesTest {
         plantsInOrder();
         plantsRefused();
         grown();
+        grownOfEach();
         mends();
         mendsLeast();
         route();
@@ -195,6 +196,27 @@ public final class TreesEdgesTest {
         }
         Checks.due("a ring behind all", on("2;3;4;5;6;7;06", "0000001").grown(), -2);
         Checks.due("a ring ahead of all", on("20;1;0;0;0;0;0", "0").grown(), -2);
+    }
+
+    /** POSTS set each way that there is, in order: which TREE they are, or none. */
+    private static void grownOfEach() {
+        Checks.of(25, "Which one of all TREES POSTS are now (from 0 on): it. -2: they are none.");
+        for (String net : new String[] {"02;13;20", "230;0133;2012", "0340;10;2041;1203", TREES_999}) {
+            String[] lines = (";" + net).split(";");
+            int[] row = new int[lines.length];
+            int n = 0;
+            int set = 0;
+            TurningPosts x = Checks.on(net);
+            for (int v = row.length - 1; v > 0; v = next(lines, row)) {
+                if (set % 40 == 0) x = Checks.on(net);
+                set++;
+                for (int at = 1; at < row.length; at++) x.points(at, row[at]);
+                boolean isTree = isTree(lines, row);
+                Checks.due("grown of " + told(row) + " of " + net, x.grown(), isTree ? n : -2);
+                if (isTree) n++;
+                if (set % 3 == 0) x.plants(set % 7);
+            }
+        }
     }
 
     private static void mends() {
