@@ -35,7 +35,7 @@ public final class LanguageTest {
             Matcher begins = Pattern.compile("^( {4}| {8})(?!return|if|for|while|switch)[a-z][^=;]*\\([^=;]*\\{$").matcher(lines[i]);
             if (!begins.find()) continue;
             int length = 1;
-            while (!lines[i + length].equals(begins.group(1) + "}")) length++;
+            while (i + length < lines.length - 1 && !lines[i + length].equals(begins.group(1) + "}")) length++;
             Checks.due("length of " + lines[i].trim() + " is " + (length + 1), length + 1 <= 60, true);
             Checks.due("arguments of " + lines[i].trim(), lines[i].chars().filter(sign -> sign == ',').count() <= 6, true);
         }
